@@ -1,0 +1,209 @@
+/** Promises 21 to 23: back, told, digest. */
+public final class StatesTest {
+    private static final Checks CHECKS = new Checks();
+
+    private static void due(String call, long got, long want) {
+        CHECKS.due(call, got, want);
+    }
+
+    public static void main(String[] args) {
+        fiveStates();
+        everythingReturns();
+        whatDoesNotReturn();
+        noStepNoState();
+        totals();
+        digests();
+        CHECKS.end("StatesTest");
+    }
+
+    private static void fiveStates() {
+        LinkNames x = new LinkNames();
+        due("none", x.back(), LinkNames.NO);
+        for (int i = 1; i <= 8; i++) {
+            x.ticks(1);
+            due("saved states", x.told(10), Math.min(i, 5));
+        }
+        for (int left = 4; left >= 0; left--) {
+            due("back()", x.back(), left);
+            due("time", x.told(5), 3 + left);
+            due("saved states", x.told(10), left);
+        }
+        due("none is left", x.back(), LinkNames.NO);
+        due("time", x.told(5), 3);
+        due("NO counted", x.told(1), 2);
+        x.ticks(1);
+        x.ticks(2);
+        due("back()", x.back(), 1);
+        x.ticks(10);
+        due("back()", x.back(), 1);
+        due("time", x.told(5), 4);
+        for (int i = 0; i < 7; i++) {
+            x.ticks(1);
+        }
+        due("back()", x.back(), 4);
+        due("time", x.told(5), 10);
+    }
+
+    /** The digest over all there is, but for what a return leaves alone. */
+    private static long picture(LinkNames x) {
+        long hash = 7;
+        for (int what = 4; what <= 9; what++) {
+            hash = 31 * hash + x.told(what);
+        }
+        for (int h = 0; h < x.told(4); h++) {
+            hash = hostPicture(x, h, hash);
+        }
+        return 31 * hash + x.rate();
+    }
+
+    private static long hostPicture(LinkNames x, int h, long before) {
+        long hash = before;
+        for (int what = 0; what <= 5; what++) {
+            hash = 31 * hash + x.of(h, what);
+        }
+        for (int r = 0; r < x.of(h, 0); r++) {
+            for (int what = 0; what <= 7; what++) {
+                hash = 31 * hash + x.record(h, r, what);
+            }
+        }
+        for (int i = 0; i < x.of(h, 3); i++) {
+            for (int what = 0; what <= 4; what++) {
+                hash = 31 * hash + x.entry(h, i, what);
+            }
+        }
+        return hash;
+    }
+
+    private static void step(LinkNames x, int which) {
+        switch (which) {
+            case 0: x.host(); break;
+            case 1: x.claims(0, 5, 0, 9, 20); break;
+            case 2: x.shares(1, 6, 1, 8, 20); break;
+            case 3: x.leaves(0, 0); break;
+            case 4: x.ticks(2); break;
+            case 5: x.asks(2, 1, 0); break;
+            case 6: x.sleeps(1, 2); break;
+            case 7: x.wakes(3); break;
+            default: Checks.reads(x, "h;t3;z0 1;g1 0;"); break;
+        }
+    }
+
+    private static void everythingReturns() {
+        for (int which = 0; which <= 8; which++) {
+            LinkNames x = Checks.withHosts(4);
+            x.shares(0, 1, 0, 1, 9);
+            x.shares(3, 1, 0, 2, 9);
+            x.claims(1, 2, 0, 3, 9);
+            x.claims(2, 2, 0, 4, 9);
+            x.sleeps(3, 0);
+            x.ticks(5);
+            long before = picture(x);
+            step(x, which);
+            due("step " + which + " saved", x.told(10), 5);
+            CHECKS.holds("step " + which + " changes something", picture(x) != before);
+            due("step " + which + ": back()", x.back(), 4);
+            due("step " + which + ": all is as before", picture(x), before);
+            x.ticks(3);
+            LinkNames y = Checks.withHosts(4);
+            y.shares(0, 1, 0, 1, 9);
+            y.shares(3, 1, 0, 2, 9);
+            y.claims(1, 2, 0, 3, 9);
+            y.claims(2, 2, 0, 4, 9);
+            y.sleeps(3, 0);
+            y.ticks(5);
+            y.ticks(3);
+            due("step " + which + ": and goes on as it would have", picture(x), picture(y));
+        }
+    }
+
+    private static void whatDoesNotReturn() {
+        LinkNames x = Checks.withHosts(1);
+        x.ticks(0);
+        x.wakes(0);
+        for (int i = 0; i < 6; i++) {
+            x.host();
+        }
+        Checks.reads(x, "t61;");
+        x.back();
+        due("BAD", x.told(0), 1);
+        due("NO", x.told(1), 1);
+        due("FULL", x.told(2), 1);
+        due("text", x.told(3), 4);
+        due("why(0)", x.why(0), LinkNames.BAD);
+        due("why(1)", x.why(1), 0);
+        due("hosts", x.told(4), 5);
+    }
+
+    private static void noStepNoState() {
+        LinkNames x = Checks.withHosts(2);
+        x.type('h');
+        x.reads();
+        x.clear();
+        x.why(0);
+        x.told(0);
+        x.digest();
+        x.rate();
+        x.of(0, 0);
+        x.all(0);
+        x.owner(0, 0, 0);
+        x.finds(0, 0, 0, 0);
+        x.entry(0, 0, 0);
+        due("no step among these", x.told(10), 2);
+        x.asks(0, 0, 0);
+        due("a question that changes nothing is a step", x.told(10), 3);
+        due("sleeps", x.sleeps(0, 1), 0);
+        due("wakes", x.wakes(0), 0);
+        due("saved", x.told(10), 5);
+    }
+
+    private static void totals() {
+        LinkNames x = Checks.withHosts(3);
+        for (int what : Checks.outside(0, 10)) {
+            due("told(" + what + ")", x.told(what), LinkNames.BAD);
+        }
+        due("BAD", x.told(0), 6);
+        x.claims(0, 1, 0, 5, 60);
+        x.ticks(3);
+        x.claims(1, 1, 0, 6, 60);
+        x.ticks(1);
+        x.asks(2, 1, 0);
+        x.type(1);
+        int[] values = {6, 0, 0, 1, 3, 4, 1, 4, 1, 1, 5};
+        for (int what = 0; what < values.length; what++) {
+            due("told(" + what + ")", x.told(what), values[what]);
+        }
+    }
+
+    private static long hashOf(long... values) {
+        long hash = 2309;
+        for (long value : values) {
+            hash = 31 * hash + value;
+        }
+        return hash;
+    }
+
+    private static void digests() {
+        LinkNames x = new LinkNames();
+        due("digest of a new object", x.digest(),
+                hashOf(0, 0, 0, 0, 0, 0, 0, 0, 0, 0, 0, 0, -1, 0, 0, 0, 0, 0));
+        x.host();
+        x.host();
+        x.shares(0, 3, 1, 77, 9);
+        x.ticks(2);
+        x.wakes(5);
+        x.wakes(1);
+        x.type(120);
+        Checks.reads(x, "h;w1;");
+        due("digest", x.digest(), hashOf(
+                1, 1, 0, 5, 2, 2, 1, 0, 0, 0, 4,
+                -3, 1,
+                1, 1, -1, 0, 1, 0,
+                3, 1, 77, 9, 3, 0, 0, 0,
+                0, 1, -1, 1, 0, 0,
+                3, 1, 77, 9, 7,
+                Float.floatToIntBits(0.1875f),
+                1, 0, 0, 2));
+        due("the same again", x.digest(), x.digest());
+        due("nothing is counted by it", x.told(0), 1);
+    }
+}
