@@ -275,7 +275,7 @@ public final class LinkNames {
      * out. A double holds every float exactly, also after the steps by 2, so nothing is rounded.
      */
     private static int bitsOf(float value) {
-        double scaled = value;
+        double scaled = (double) value;
         int exponent = 127;
         while (scaled >= 2.0 && exponent < 254) {
             scaled = scaled * 0.5;
@@ -676,7 +676,7 @@ public final class LinkNames {
         }
 
         int addHost() {
-            if (hostCount == MOST_HOSTS) {
+            if (hostCount >= MOST_HOSTS) {
                 return FULL;
             }
             hosts[hostCount].begin();
@@ -716,7 +716,7 @@ public final class LinkNames {
             if (!hosts[h].awake || hosts[h].hasNamed(name, kind)) {
                 return NO;
             }
-            return hosts[h].count == MOST_RECORDS ? FULL : 0;
+            return hosts[h].count >= MOST_RECORDS ? FULL : 0;
         }
 
         int sayGoodbye(int h, int r) {
@@ -748,7 +748,7 @@ public final class LinkNames {
             messages++;
         }
 
-        /** The host that speaks for a host's records: itself, or its proxy while it sleeps; NONE if neither is awake. */
+        /** Who speaks for a host's records: itself, or its proxy while it sleeps; NONE if neither is awake. */
         int speakerFor(int h) {
             Host host = hosts[h];
             if (host.awake) {
@@ -786,7 +786,7 @@ public final class LinkNames {
         }
 
         void measureRate() {
-            float sinceLast = messages - messagesAtTick;
+            float sinceLast = (float) (messages - messagesAtTick);
             rate = rate * 0.75f + sinceLast * 0.25f;
             messagesAtTick = messages;
         }
@@ -1111,7 +1111,7 @@ public final class LinkNames {
         }
 
         void keepDraft() {
-            if (kept == MOST_STATES) {
+            if (kept >= MOST_STATES) {
                 oldest = (oldest + 1) % PLACES;
             } else {
                 kept++;
@@ -1150,7 +1150,7 @@ public final class LinkNames {
             if (!within(c, 0, 127)) {
                 return BAD;
             }
-            if (length == MOST_BYTES) {
+            if (length >= MOST_BYTES) {
                 return FULL;
             }
             bytes[length] = (byte) c;

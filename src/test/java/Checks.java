@@ -1,4 +1,4 @@
-/** What the tests of the project have in common: they print every wrong answer, and end with exit code 1 if there was one. */
+/** What the project's tests have in common: they print each wrong answer, and end with exit code 1 if there was one. */
 final class Checks {
     private int wrong;
 

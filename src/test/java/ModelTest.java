@@ -1,16 +1,28 @@
-import java.util.ArrayList;
 import java.util.Arrays;
-import java.util.List;
 
-/** Long runs of calls that look random but are the same each time: the program and the model must give the same answers. */
+/** Long runs of calls, as if by chance but the same each time: the program and the model must give the same answers. */
 public final class ModelTest {
-    private static final int RUNS = 600;
+    private static final int RUNS = 2000;
     private static final int CALLS = 512;
 
+    private final Checks checks;
+    private final int run;
+    private final LinkNames program = new LinkNames();
+    private final Model model = new Model();
+    private int calls;
     private long seed;
+    private final int names;
+    private final int data;
+    private final int lives;
 
-    private ModelTest(long seed) {
-        this.seed = seed * 0x9E3779B97F4A7C15L + 77;
+    private ModelTest(Checks checks, int run) {
+        this.checks = checks;
+        this.run = run;
+        seed = run * 0x9E3779B97F4A7C15L + 77;
+        // The fewer names and data there are, the more often hosts meet.
+        names = 1 + pick(run % 2 == 0 ? 16 : 5);
+        data = 1 + pick(run % 4 == 0 ? 256 : 5);
+        lives = run % 3 == 0 ? 60 : 12;
     }
 
     private int pick(int below) {
@@ -35,82 +47,78 @@ public final class ModelTest {
     public static void main(String[] args) {
         Checks checks = new Checks();
         for (int run = 0; run < RUNS; run++) {
-            new ModelTest(run).compare(checks, run);
+            new ModelTest(checks, run).compare();
         }
         checks.end("ModelTest");
     }
 
-    private void compare(Checks checks, int run) {
-        LinkNames program = new LinkNames();
-        Model model = new Model();
-        // The fewer names and data there are, the more often hosts meet.
-        int names = 1 + pick(run % 5 == 0 ? 16 : 4);
-        int data = 1 + pick(run % 4 == 0 ? 256 : 5);
-        int lives = run % 3 == 0 ? 60 : 12;
-        List<String> calls = new ArrayList<>();
-        for (int made = 0; made < CALLS; ) {
-            if (pick(25) == 0) {
-                for (char c : text(names, data, lives).toCharArray()) {
-                    made++;
-                    both(checks, calls, run, program, model, "type", c);
+    private void compare() {
+        for (int h = pick(6); h > 0; h--) {
+            both("host");
+        }
+        while (calls < CALLS) {
+            if (pick(40) == 0) {
+                for (char c : text().toCharArray()) {
+                    both("type", c);
                 }
-                both(checks, calls, run, program, model, "reads");
+                both("reads");
                 if (pick(3) > 0) {
-                    both(checks, calls, run, program, model, "clear");
+                    both("clear");
                 }
             } else {
-                next(checks, calls, run, program, model, names, data, lives);
+                next();
             }
-            both(checks, calls, run, program, model, "digest");
-            made += 3;
+            if (pick(4) == 0) {
+                both("digest");
+            }
         }
+        both("digest");
     }
 
-    private void next(Checks checks, List<String> calls, int run, LinkNames program, Model model, int names, int data,
-            int lives) {
+    private void next() {
         int h = near(0, 5);
         int name = near(0, names - 1);
         int kind = pick(10) == 0 ? near(0, 3) : 0;
-        switch (pick(24)) {
-            case 0: case 1:
-                both(checks, calls, run, program, model, "host"); break;
-            case 2: case 3: case 4: case 5:
-                both(checks, calls, run, program, model, "claims", h, name, kind, near(0, data - 1), near(2, lives)); break;
+        switch (pick(28)) {
+            case 0:
+                both("host"); break;
+            case 1: case 2: case 3: case 4: case 5:
+                both("claims", h, name, kind, near(0, data - 1), near(2, lives)); break;
             case 6: case 7:
-                both(checks, calls, run, program, model, "shares", h, name, kind, near(0, data - 1), near(2, lives)); break;
-            case 8:
-                both(checks, calls, run, program, model, "leaves", h, near(0, 2)); break;
+                both("shares", h, name, kind, near(0, data - 1), near(2, lives)); break;
+            case 8: case 24: case 25: case 26:
+                both("leaves", h, near(0, 2)); break;
             case 9:
-                both(checks, calls, run, program, model, "record", h, near(0, 4), near(0, 7)); break;
+                both("record", h, near(0, 4), near(0, 7)); break;
             case 10:
-                both(checks, calls, run, program, model, "of", h, near(0, 5)); break;
+                both("of", h, near(0, 5)); break;
             case 11: case 12: case 13:
-                both(checks, calls, run, program, model, "ticks", pick(12) == 0 ? near(1, 60) : near(1, 3)); break;
+                both("ticks", pick(12) == 0 ? near(1, 60) : near(1, 2)); break;
             case 14:
-                both(checks, calls, run, program, model, "rate"); break;
+                both("rate"); break;
             case 15: case 16:
-                both(checks, calls, run, program, model, "asks", h, name, kind); break;
+                both("asks", h, name, kind); break;
             case 17:
-                both(checks, calls, run, program, model, "entry", h, near(0, 6), near(0, 4)); break;
+                both("entry", h, near(0, 6), near(0, 4)); break;
             case 18:
-                both(checks, calls, run, program, model, "finds", h, name, kind, near(0, 2)); break;
+                both("finds", h, name, kind, near(0, 2)); break;
             case 19:
-                both(checks, calls, run, program, model, "owner", name, kind, near(0, 2)); break;
+                both("owner", name, kind, near(0, 2)); break;
             case 20:
-                both(checks, calls, run, program, model, "sleeps", h, near(-1, 5)); break;
+                both("sleeps", h, near(-1, 5)); break;
             case 21:
-                both(checks, calls, run, program, model, "wakes", h); break;
+                both("wakes", h); break;
             case 22:
-                both(checks, calls, run, program, model, "back"); break;
+                both("back"); break;
             default:
                 String[] totals = {"all", "why", "told"};
                 int which = pick(3);
-                both(checks, calls, run, program, model, totals[which], near(0, new int[] {3, 1, 10}[which])); break;
+                both(totals[which], near(0, new int[] {3, 1, 10}[which])); break;
         }
     }
 
     /** A text of some orders, of which one may be spoiled by a byte. */
-    private String text(int names, int data, int lives) {
+    private String text() {
         StringBuilder text = new StringBuilder();
         int orders = 1 + pick(5);
         for (int i = 0; i < orders; i++) {
@@ -156,11 +164,9 @@ public final class ModelTest {
         }
     }
 
-    private static void both(Checks checks, List<String> calls, int run, LinkNames program, Model model, String method,
-            int... a) {
-        String call = method + Arrays.toString(a);
-        calls.add(call);
-        checks.due("run " + run + ", call " + calls.size() + ": " + call, onProgram(program, method, a),
+    private void both(String method, int... a) {
+        calls++;
+        checks.due("run " + run + ", call " + calls + ": " + method + Arrays.toString(a), onProgram(program, method, a),
                 model.call(method, a));
     }
 

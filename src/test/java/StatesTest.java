@@ -9,6 +9,7 @@ public final class StatesTest {
     public static void main(String[] args) {
         fiveStates();
         everythingReturns();
+        hostsComeAnew();
         whatDoesNotReturn();
         noStepNoState();
         totals();
@@ -81,39 +82,54 @@ public final class StatesTest {
             case 2: x.shares(1, 6, 1, 8, 20); break;
             case 3: x.leaves(0, 0); break;
             case 4: x.ticks(2); break;
-            case 5: x.asks(2, 1, 0); break;
-            case 6: x.sleeps(1, 2); break;
-            case 7: x.wakes(3); break;
+            case 5: x.ticks(9); break;
+            case 6: x.asks(0, 4, 1); break;
+            case 7: x.asks(2, 1, 0); break;
+            case 8: x.sleeps(1, 2); break;
+            case 9: x.wakes(3); break;
             default: Checks.reads(x, "h;t3;z0 1;g1 0;"); break;
         }
     }
 
+    /** A link on which much is under way, so that each step changes much. */
+    private static LinkNames busyLink() {
+        LinkNames x = Checks.withHosts(4);
+        Checks.reads(x, "s0 1 0 1 9;c0 7 3 200 40;t1;c0 8 2 100 50;s3 1 0 2 9;c1 2 0 3 60;s2 4 1 6 7;");
+        x.sleeps(3, 0);
+        x.ticks(4);
+        // Data 2 lose the name to those of host 1, and data 1 wait for those of host 0.
+        Checks.reads(x, "c2 2 0 2 20;c0 9 1 9 20;c2 9 1 1 20;t1;");
+        return x;
+    }
+
     private static void everythingReturns() {
-        for (int which = 0; which <= 8; which++) {
-            LinkNames x = Checks.withHosts(4);
-            x.shares(0, 1, 0, 1, 9);
-            x.shares(3, 1, 0, 2, 9);
-            x.claims(1, 2, 0, 3, 9);
-            x.claims(2, 2, 0, 4, 9);
-            x.sleeps(3, 0);
-            x.ticks(5);
+        for (int which = 0; which <= 10; which++) {
+            LinkNames x = busyLink();
             long before = picture(x);
             step(x, which);
             due("step " + which + " saved", x.told(10), 5);
             CHECKS.holds("step " + which + " changes something", picture(x) != before);
             due("step " + which + ": back()", x.back(), 4);
             due("step " + which + ": all is as before", picture(x), before);
-            x.ticks(3);
-            LinkNames y = Checks.withHosts(4);
-            y.shares(0, 1, 0, 1, 9);
-            y.shares(3, 1, 0, 2, 9);
-            y.claims(1, 2, 0, 3, 9);
-            y.claims(2, 2, 0, 4, 9);
-            y.sleeps(3, 0);
-            y.ticks(5);
-            y.ticks(3);
-            due("step " + which + ": and goes on as it would have", picture(x), picture(y));
+            LinkNames y = busyLink();
+            for (int i = 0; i < 4; i++) {
+                due("step " + which + ": and goes on as it would have", x.ticks(3), y.ticks(3));
+                due("step " + which + ": and goes on as it would have", picture(x), picture(y));
+            }
         }
+    }
+
+    /** What a host was before it was taken back is nothing to the one that comes in its place. */
+    private static void hostsComeAnew() {
+        LinkNames x = Checks.withHosts(1);
+        Checks.reads(x, "h;s0 1 0 1 9;s1 2 0 1 9;z1 0;");
+        x.back();
+        due("one host", x.told(4), 1);
+        due("host()", x.host(), 1);
+        due("no records", x.of(1, 0), 0);
+        due("no entries", x.of(1, 3), 0);
+        due("awake", x.of(1, 1), 1);
+        due("no proxy", x.of(1, 2), LinkNames.NONE);
     }
 
     private static void whatDoesNotReturn() {

@@ -14,6 +14,7 @@ public final class TimeTest {
         loses();
         losesOnlyToDefended();
         moved();
+        newRecordsDoNotWait();
         sleepersDoNotProbe();
         entriesEnd();
         rate();
@@ -145,6 +146,7 @@ public final class TimeTest {
         x.sleeps(1, 2);
         x.ticks(1);
         due("a proxy defends even against itself", x.record(2, 0, 0), 4);
+        due("who loses begins anew", x.record(2, 0, 4), 0);
         x.sleeps(2, 3);
         x.claims(3, 3, 0, 8, 60);
         due("a sleeping proxy does not", x.ticks(3), 1);
@@ -171,6 +173,25 @@ public final class TimeTest {
         due("host 0 keeps one", x.finds(0, 4, 0, 1), 1);
         due("a question about both", x.asks(0, 4, 0), 1);
         due("one was known", x.told(9), 1);
+    }
+
+    private static void newRecordsDoNotWait() {
+        LinkNames x = Checks.withHosts(2);
+        x.claims(0, 3, 0, 5, 60);
+        x.claims(1, 3, 0, 6, 60);
+        x.ticks(1);
+        due("it waits", x.record(0, 0, 5), 1);
+        x.leaves(0, 0);
+        x.claims(0, 4, 0, 5, 60);
+        due("the next one does not", x.record(0, 0, 5), 0);
+        x.shares(1, 9, 0, 5, 60);
+        x.leaves(1, 1);
+        x.claims(1, 9, 0, 5, 60);
+        due("nor is it owned at once", x.record(1, 1, 4), 0);
+        due("it is sole", x.record(1, 1, 6), 1);
+        x.leaves(1, 1);
+        x.shares(1, 9, 0, 5, 60);
+        due("and a shared one is not", x.record(1, 1, 6), 0);
     }
 
     private static void sleepersDoNotProbe() {
