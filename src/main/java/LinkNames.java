@@ -422,16 +422,17 @@ public final class LinkNames {
         void endRivals(NameRecord record, int latest) {
             for (int i = 0; i < size; i++) {
                 Entry entry = entries[i];
-                if (entry.name == record.name && entry.kind == record.kind && entry.data != record.data) {
-                    entry.end = Math.min(entry.end, latest);
+                if (entry.name == record.name && entry.kind == record.kind && entry.data != record.data
+                        && entry.end > latest) {
+                    entry.end = latest;
                 }
             }
         }
 
         void endOf(NameRecord record, int latest) {
             int at = indexOf(record.name, record.kind, record.data);
-            if (at != NONE) {
-                entries[at].end = Math.min(entries[at].end, latest);
+            if (at != NONE && entries[at].end > latest) {
+                entries[at].end = latest;
             }
         }
 
