@@ -58,9 +58,8 @@ class Edges {
     static void refusedWith(int answer, String call, LinkNames x, int error, IntSupplier made) {
         long before = x.digest();
         due(call, made.getAsInt(), answer);
-        int behind = valuesOfDigest(x) - 1 - (BAD - error);
         due(call + ": digest(), in which the count of its error alone has grown", x.digest(),
-                before + power(31, behind));
+                digestWithOneMore(x, before, BAD - error));
     }
 
     /** A call that answers without an error and must change nothing that digest() tells. */
@@ -68,6 +67,11 @@ class Edges {
         long before = x.digest();
         due(call, made.getAsInt(), answer);
         due(call + ": digest(), which is as before", x.digest(), before);
+    }
+
+    /** What a digest becomes if told(total) alone grows by 1. */
+    static long digestWithOneMore(LinkNames x, long digest, int total) {
+        return digest + power(31, valuesOfDigest(x) - 1 - total);
     }
 
     private static int valuesOfDigest(LinkNames x) {

@@ -47,6 +47,14 @@ public final class HostAndCacheEdgesTest extends Edges {
         x.back();
         due("the sixth comes again", x.host(), 5);
         due("awake at first", x.of(5, 1), 1);
+        LinkNames y = Checks.withHosts(1);
+        Checks.reads(y, "h;s0 1 0 1 9;s1 2 0 1 9;z1 0;");
+        y.back();
+        due("one that comes in the place of another", y.host(), 1);
+        int[] anew = {0, 1, NONE, 0, 0, 0};
+        for (int what = 0; what <= 5; what++) {
+            due("has nothing of it: of(1, " + what + ")", y.of(1, what), anew[what]);
+        }
     }
 
     private static void timeAtFirst() {
@@ -86,6 +94,12 @@ public final class HostAndCacheEdgesTest extends Edges {
         record("greatest, sole", x, 0, 1, 15, 3, 255, 60, 0, 0, 1);
         record("least, shared", x, 1, 0, 0, 0, 0, 2, 3, 0, 0);
         record("greatest, shared", x, 1, 1, 15, 3, 255, 60, 3, 0, 0);
+        x.leaves(0, 1);
+        x.shares(0, 7, 1, 1, 30);
+        record("shared, in the place of a sole one", x, 0, 1, 7, 1, 1, 30, 3, 0, 0);
+        x.leaves(1, 1);
+        x.claims(1, 7, 1, 1, 30);
+        record("sole, in the place of a shared one", x, 1, 1, 7, 1, 1, 30, 0, 0, 1);
         int[][] beyond = {{-1, 0, 0, 2}, {16, 0, 0, 2}, {0, -1, 0, 2}, {0, 4, 0, 2}, {0, 0, -1, 2}, {0, 0, 256, 2},
             {0, 0, 0, 1}, {0, 0, 0, 61}};
         LinkNames y = Checks.withHosts(1);
@@ -116,6 +130,10 @@ public final class HostAndCacheEdgesTest extends Edges {
         x.leaves(0, 2);
         x.claims(0, 3, 0, 1, 60);
         due("wait 0 at first", x.record(0, 2, 5), 0);
+        LinkNames y = after(1, "c0 1 0 0 60;t3;g0 0;c0 1 0 0 60;");
+        due("stage 0 in the place of an owned one", y.record(0, 0, 4), 0);
+        LinkNames z = after(1, "c0 1 0 0 60;t2;g0 0;s0 1 0 0 60;");
+        due("stage 3 in the place of one that was not owned", z.record(0, 0, 4), 3);
     }
 
     private static void oneName() {

@@ -56,7 +56,7 @@ public final class ModelTest {
         for (int h = pick(6); h > 0; h--) {
             both("host");
         }
-        while (calls < CALLS) {
+        while (calls < CALLS - 1) {
             if (pick(40) == 0) {
                 for (char c : text().toCharArray()) {
                     both("type", c);
@@ -164,7 +164,11 @@ public final class ModelTest {
         }
     }
 
+    /** Nothing is promised after the 512th call, which is kept for the digest. */
     private void both(String method, int... a) {
+        if (calls >= CALLS || calls == CALLS - 1 && !method.equals("digest")) {
+            return;
+        }
         calls++;
         checks.due("run " + run + ", call " + calls + ": " + method + Arrays.toString(a), onProgram(program, method, a),
                 model.call(method, a));

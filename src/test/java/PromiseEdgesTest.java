@@ -351,24 +351,32 @@ public final class PromiseEdgesTest extends Edges {
         LinkNames w = after(2, "c0 3 0 5 60;c1 4 0 70 60;t3;c1 3 0 60 60;t4;");
         due("two records of one host: the first one's data", w.owner(4, 0, 1), 70);
         due("one host", w.owner(4, 0, 2), 1);
+        LinkNames v = after(1, "s0 9 0 1 60;c0 4 1 2 60;c0 4 0 3 60;t3;");
+        due("data of a record that is not record 0", v.owner(4, 0, 1), 3);
+        v.leaves(0, 2);
+        due("none after its goodbye", v.owner(4, 0, 0), NONE);
+        due("none after its goodbye", v.owner(4, 0, 2), 0);
     }
 
     private static void all() {
         sentence("Returns the total; BAD if what is out of range.");
-        LinkNames x = after(3, "s0 1 0 1 60;s0 2 0 2 60;c1 3 0 3 60;z2;g0 0;c1 1 0 1 60;");
-        due("entries, also of a sleeper", x.all(0), 4);
-        due("entries that no owned record has", x.all(1), 2);
+        LinkNames x = after(4, "s0 1 0 1 60;s0 2 0 2 60;c1 3 0 3 60;z2;g0 0;c1 1 0 1 60;");
+        due("entries, also of a sleeper", x.all(0), 6);
+        due("entries that no owned record has", x.all(1), 3);
         due("records that are not owned", x.all(2), 2);
-        due("hosts that are awake", x.all(3), 2);
+        due("hosts that are awake", x.all(3), 3);
         x.ticks(3);
         due("host 1 has an owned one now", x.all(1), 0);
+        x.claims(1, 9, 0, 1, 60);
         x.sleeps(1, NONE);
         due("also while it sleeps", x.all(1), 0);
+        due("a sleeper's record that is not owned", x.all(2), 1);
         for (int what : Checks.outside(0, 3)) {
             refused("all(" + what + ")", x, BAD, () -> x.all(what));
         }
-        LinkNames y = after(6, "z0;z1;z2;z3;z4;z5;");
+        LinkNames y = after(6, "s0 1 0 1 60;g0 0;z0;z1;z2;z3;z4;z5;");
         due("none is awake", y.all(3), 0);
+        due("what no record of six hosts has", y.all(1), 5);
         LinkNames z = after(3, "s0 1 0 1 60;c1 1 0 2 60;c1 1 1 1 60;c1 2 0 1 60;t3;z2;g0 0;");
         due("other data, another kind or name are not the same", z.all(1), 2);
     }

@@ -3,6 +3,7 @@ public final class QuestionEdgesTest extends Edges {
     public static void main(String[] args) {
         known();
         knownWhenItBegins();
+        knownForAllData();
         considered();
         suppressed();
         announcedByWhom();
@@ -58,6 +59,24 @@ public final class QuestionEdgesTest extends Edges {
         due("suppressed", y.told(9), 1);
         due("though their entry ends soon", y.entry(2, 0, 4), 1);
         due("so they are not known in the next question", y.asks(2, 1, 0), 1);
+    }
+
+    /** Each data from 0 to 255 can be known, and makes no other data known. */
+    private static void knownForAllData() {
+        sentence("its cache has an entry with this name, kind and data");
+        for (int data = 0; data <= 255; data++) {
+            for (int apart : new int[] {1, 2, 7, 8, 16, 31, 32, 63, 64, 65, 127, 128, 192, 254, 255}) {
+                int other = (data + apart) % 256;
+                LinkNames x = Checks.withHosts(3);
+                x.sleeps(2, NONE);
+                x.shares(0, 1, 0, other, 60);
+                x.wakes(2);
+                x.shares(1, 1, 0, data, 60);
+                due("known " + data + ", not " + other, x.asks(2, 1, 0), 1);
+                due("suppressed " + data, x.told(9), 1);
+                due("announced " + other, x.finds(2, 1, 0, 0), other);
+            }
+        }
     }
 
     private static void considered() {
@@ -123,6 +142,10 @@ public final class QuestionEdgesTest extends Edges {
         due("its host is awake", x.asks(3, 1, 0), 1);
         due("all but the host hear it", x.all(0), 3);
         due("not the host", x.of(0, 3), 0);
+        LinkNames w = after(3, "z0;z2;s1 1 0 7 60;w0;w2;");
+        due("its host is not the first one", w.asks(2, 1, 0), 1);
+        due("the first one hears it", w.of(0, 3), 1);
+        due("its host does not", w.of(1, 3), 0);
         LinkNames y = after(4, "z1;z2;z3;s0 1 0 7 60;w1;w2;w3;z0 2;");
         due("its proxy is another", y.asks(3, 1, 0), 1);
         due("the asking one hears it", y.of(3, 3), 1);
@@ -191,6 +214,12 @@ public final class QuestionEdgesTest extends Edges {
         // Host 1 keeps the entry that it heard before it had the record itself.
         LinkNames w = after(2, "s0 1 0 5 60;s1 1 0 5 60;g1 0;");
         due("also its own entry", w.entry(1, 0, 4), 1);
+        LinkNames u = after(3, "s0 1 0 5 60;s2 1 0 5 60;c1 1 0 5 60;g0 0;");
+        due("also that of a host which has the same record", u.entry(1, 0, 4), 1);
+        LinkNames v = after(6, "s3 1 0 5 60;g3 0;");
+        for (int h = 0; h < 6; h++) {
+            due("of six hosts, host " + h, v.finds(h, 1, 0, 2), h == 3 ? NONE : 1);
+        }
     }
 
     private static void fallsAsleep() {

@@ -45,36 +45,6 @@ public final class StatesTest {
         due("time", x.told(5), 10);
     }
 
-    /** The digest over all there is, but for what a return leaves alone. */
-    private static long picture(LinkNames x) {
-        long hash = 7;
-        for (int what = 4; what <= 9; what++) {
-            hash = 31 * hash + x.told(what);
-        }
-        for (int h = 0; h < x.told(4); h++) {
-            hash = hostPicture(x, h, hash);
-        }
-        return 31 * hash + x.rate();
-    }
-
-    private static long hostPicture(LinkNames x, int h, long before) {
-        long hash = before;
-        for (int what = 0; what <= 5; what++) {
-            hash = 31 * hash + x.of(h, what);
-        }
-        for (int r = 0; r < x.of(h, 0); r++) {
-            for (int what = 0; what <= 7; what++) {
-                hash = 31 * hash + x.record(h, r, what);
-            }
-        }
-        for (int i = 0; i < x.of(h, 3); i++) {
-            for (int what = 0; what <= 4; what++) {
-                hash = 31 * hash + x.entry(h, i, what);
-            }
-        }
-        return hash;
-    }
-
     private static void step(LinkNames x, int which) {
         switch (which) {
             case 0: x.host(); break;
@@ -87,34 +57,38 @@ public final class StatesTest {
             case 7: x.asks(2, 1, 0); break;
             case 8: x.sleeps(1, 2); break;
             case 9: x.wakes(3); break;
-            default: Checks.reads(x, "h;t3;z0 1;g1 0;"); break;
+            default:
+                Checks.reads(x, "h;t3;z0 1;g1 0;");
+                x.clear();
+                break;
         }
     }
 
-    /** A link on which much is under way, so that each step changes much. */
+    /** A link on which much is under way, so that each step changes much; four states are saved. */
     private static LinkNames busyLink() {
-        LinkNames x = Checks.withHosts(4);
-        Checks.reads(x, "s0 1 0 1 9;c0 7 3 200 40;t1;c0 8 2 100 50;s3 1 0 2 9;c1 2 0 3 60;s2 4 1 6 7;");
+        LinkNames x = new LinkNames();
+        Checks.reads(x, "h;h;h;h;s0 1 0 1 9;c0 7 3 200 40;t1;c0 8 2 100 50;s3 1 0 2 9;c1 2 0 3 60;s2 4 1 6 7;");
         x.sleeps(3, 0);
         x.ticks(4);
         // Data 2 lose the name to those of host 1, and data 1 wait for those of host 0.
         Checks.reads(x, "c2 2 0 2 20;c0 9 1 9 20;c2 9 1 1 20;t1;");
+        x.clear();
         return x;
     }
 
     private static void everythingReturns() {
         for (int which = 0; which <= 10; which++) {
             LinkNames x = busyLink();
-            long before = picture(x);
+            due("four saved states", x.told(10), 4);
+            long before = x.digest();
             step(x, which);
             due("step " + which + " saved", x.told(10), 5);
-            CHECKS.holds("step " + which + " changes something", picture(x) != before);
             due("step " + which + ": back()", x.back(), 4);
-            due("step " + which + ": all is as before", picture(x), before);
+            due("step " + which + ": all is as before", x.digest(), before);
             LinkNames y = busyLink();
             for (int i = 0; i < 4; i++) {
                 due("step " + which + ": and goes on as it would have", x.ticks(3), y.ticks(3));
-                due("step " + which + ": and goes on as it would have", picture(x), picture(y));
+                due("step " + which + ": and goes on as it would have", x.digest(), y.digest());
             }
         }
     }

@@ -46,6 +46,9 @@ public final class TickEdgesTest extends Edges {
         z.ticks(3);
         due("removed before another is heard", z.entry(3, 0, 0), 1);
         due("six again", z.entry(3, 5, 0), 9);
+        LinkNames w = after(4, "c1 9 0 5 60;s0 1 0 5 60;s0 2 0 5 60;s0 3 0 5 60;s0 4 0 5 60;s0 5 0 5 60;s2 6 0 5 2;");
+        w.ticks(30);
+        due("removed in its own tick, though other ticks follow in the call", w.entry(3, 0, 0), 1);
     }
 
     private static void order() {
@@ -129,6 +132,8 @@ public final class TickEdgesTest extends Edges {
         due("not defended: the proxy sleeps", v.record(1, 0, 4), 3);
         LinkNames u = after(3, "c0 3 0 5 60;t3;z0 2;c1 3 0 9 60;t1;");
         due("defended by a proxy", u.record(1, 0, 0), 4);
+        LinkNames t = after(2, "c0 3 0 5 60;t3;z0 1;c1 3 0 9 60;t1;");
+        due("also against the proxy's own", t.record(1, 0, 0), 4);
         LinkNames s = after(2, "s0 3 0 5 60;c1 3 0 9 60;t3;");
         due("not defended: shared", s.record(1, 0, 4), 3);
         losesToNoneOfItsOwnHost();
@@ -149,6 +154,9 @@ public final class TickEdgesTest extends Edges {
         LinkNames x = after(2, "c0 3 0 254 60;c1 3 0 255 60;t1;");
         record("greater by 1: it yields", x, 0, 0, 3, 0, 254, 60, 0, 1, 1, 0);
         due("less by 1: it does not", x.record(1, 0, 4), 1);
+        LinkNames t = after(2, "c0 3 0 255 60;c1 3 0 254 60;t1;");
+        due("less by 1: it does not", t.record(0, 0, 4), 1);
+        record("greater by 1: it yields to host 0", t, 1, 0, 3, 0, 254, 60, 0, 1, 1, 0);
         LinkNames y = after(2, "c0 3 0 0 60;c1 3 0 0 60;t1;");
         due("equal data", y.record(0, 0, 4), 1);
         due("equal data", y.record(1, 0, 4), 1);
